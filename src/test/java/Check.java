@@ -1,0 +1,48 @@
+/** Counts the answers that are not due, for a test whose main method ends with end(). */
+final class Check {
+    interface Call {
+        long answer();
+    }
+
+    private static int wrong = 0;
+
+    private Check() {
+    }
+
+    static void due(String what, Object got, Object want) {
+        if (!String.valueOf(got).equals(String.valueOf(want))) {
+            wrong++;
+            System.out.println(what + " answered " + got + ", due is " + want);
+        }
+    }
+
+    static void refused(String what, Class<? extends RuntimeException> want, Call call) {
+        due(what, outcome(call), "throws." + want.getSimpleName());
+    }
+
+    static void refused(String what, Class<? extends RuntimeException> want, Runnable call) {
+        refused(what, want, asCall(call));
+    }
+
+    static String outcome(Call call) {
+        try {
+            return String.valueOf(call.answer());
+        } catch (RuntimeException e) {
+            return "throws." + e.getClass().getSimpleName();
+        }
+    }
+
+    static Call asCall(Runnable call) {
+        return () -> {
+            call.run();
+            return 0;
+        };
+    }
+
+    static void end() {
+        if (wrong != 0) {
+            System.out.println(wrong + " answers are not as due");
+            System.exit(1);
+        }
+    }
+}
