@@ -24,6 +24,11 @@ public final class LearnedCodes {
     private static final int MOST_BITS = 4000;
     private static final int LAST_START = 3800;
     private static final int MOST_EVENTS = 200;
+
+    private static final int KIND = 0;
+    private static final int SPACE = 1;
+    private static final int LOCAL = 2;
+    private static final int VALUE = 3;
     private static final int EVENT_PARTS = 4;
 
     private static final int GROUP_BITS = 3;
@@ -39,11 +44,8 @@ public final class LearnedCodes {
     /** The row of a table that has one row alone. */
     private static final int ONLY = 0;
 
-    private final Bits output = new Bits();
-    private final Bits stream = new Bits();
-    private final Events events = new Events();
-    private final Writer writer = new Writer(output);
-    private final Reader reader = new Reader(stream, events);
+    private final Writer writer = new Writer();
+    private final Reader reader = new Reader();
 
     public LearnedCodes() {
         writer.begin();
@@ -103,55 +105,55 @@ public final class LearnedCodes {
     }
 
     public int written() {
-        return output.size;
+        return writer.output.size;
     }
 
     public int keep() {
-        stream.become(output);
-        return stream.size;
+        reader.stream.become(writer.output);
+        return reader.stream.size;
     }
 
     public int push(boolean one) throws IllegalStateException {
-        if (stream.isFull()) {
+        if (reader.stream.isFull()) {
             throw new IllegalStateException("the stream is full");
         }
-        stream.append(one ? 1 : 0, 1);
-        return stream.size;
+        reader.stream.append(one ? 1 : 0, 1);
+        return reader.stream.size;
     }
 
     public int bit(int i) throws IndexOutOfBoundsException {
-        if (!stream.has(i)) {
+        if (!reader.stream.has(i)) {
             throw new IndexOutOfBoundsException("the stream has no such bit");
         }
-        return stream.items[i];
+        return reader.stream.items[i];
     }
 
     public void flip(int i) throws IndexOutOfBoundsException {
-        if (!stream.has(i)) {
+        if (!reader.stream.has(i)) {
             throw new IndexOutOfBoundsException("the stream has no such bit");
         }
-        stream.items[i] = 1 - stream.items[i];
+        reader.stream.items[i] = 1 - reader.stream.items[i];
     }
 
     public void cut(int n) throws IllegalArgumentException {
-        if (n < 0 || n > stream.size) {
+        if (n < 0 || n > reader.stream.size) {
             throw new IllegalArgumentException("the stream has not so many bits");
         }
-        stream.size = n;
+        reader.stream.size = n;
     }
 
     public int read() throws IllegalArgumentException, UnsupportedOperationException {
         reader.begin();
         for (int count = 1; count <= MOST_EVENTS + 1; count++) {
             if (!reader.readEvent()) {
-                events.forget();
+                reader.events.forget();
                 throw new IllegalArgumentException("the stream is wrong");
             }
             if (reader.isWhole() && count <= MOST_EVENTS) {
                 return count;
             }
         }
-        events.forget();
+        reader.events.forget();
         throw new UnsupportedOperationException("the document has too many events");
     }
 
@@ -160,28 +162,30 @@ public final class LearnedCodes {
     }
 
     public int event(int i, int what) throws IndexOutOfBoundsException, IllegalArgumentException {
-        if (i < 0 || i >= events.size) {
+        if (i < 0 || i >= reader.events.size) {
             throw new IndexOutOfBoundsException("there is no such event");
         }
         if (what < 0 || what >= EVENT_PARTS) {
             throw new IllegalArgumentException("an event has no such part");
         }
-        return events.part(i, what);
+        return reader.events.part(i, what);
     }
 
     public int again() throws IllegalStateException, UnsupportedOperationException {
-        if (events.size == 0) {
+        if (reader.events.size == 0) {
             throw new IllegalStateException("no events were read");
         }
+        Events events = reader.events;
         writer.begin();
         for (int i = 0; i < events.size; i++) {
-            int kind = events.part(i, 0);
-            if (!writer.writeEvent(kind, events.part(i, 1), events.part(i, 2), events.part(i, 3))) {
+            boolean isWritten = writer.writeEvent(events.part(i, KIND), events.part(i, SPACE),
+                    events.part(i, LOCAL), events.part(i, VALUE));
+            if (!isWritten) {
                 writer.begin();
                 throw new UnsupportedOperationException("an event can't be written");
             }
         }
-        return output.size;
+        return writer.output.size;
     }
 
     private static boolean isText(int value) {
@@ -507,10 +511,10 @@ public final class LearnedCodes {
 
         void add(int kind, int space, int local, int value) {
             if (size <= MOST_EVENTS) {
-                parts[0][size] = kind;
-                parts[1][size] = space;
-                parts[2][size] = local;
-                parts[3][size] = value;
+                parts[KIND][size] = kind;
+                parts[SPACE][size] = space;
+                parts[LOCAL][size] = local;
+                parts[VALUE][size] = value;
                 size++;
             }
         }
@@ -523,13 +527,9 @@ public final class LearnedCodes {
 
     /** Writes events as bits; what can't be written leaves all as it was. */
     private static final class Writer {
-        private final Bits output;
+        final Bits output = new Bits();
         private final Tables tables = new Tables();
         private final Grammars grammars = new Grammars();
-
-        Writer(Bits output) {
-            this.output = output;
-        }
 
         void begin() {
             output.size = 0;
@@ -712,16 +712,11 @@ public final class LearnedCodes {
 
     /** Reads events from bits; each step answers NONE, or false, as soon as the bits are wrong. */
     private static final class Reader {
-        private final Bits stream;
-        private final Events events;
+        final Bits stream = new Bits();
+        final Events events = new Events();
         private final Tables tables = new Tables();
         private final Grammars grammars = new Grammars();
         int taken;
-
-        Reader(Bits stream, Events events) {
-            this.stream = stream;
-            this.events = events;
-        }
 
         void begin() {
             taken = 0;
