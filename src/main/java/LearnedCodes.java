@@ -32,13 +32,14 @@ public final class LearnedCodes {
     private static final int EVENT_PARTS = 4;
 
     private static final int GROUP_BITS = 3;
+    private static final int GROUP_BASE = 8;
     private static final int MOST_GROUPS = 4;
 
     private static final int NUMBER_OF_NAME = 0;
     private static final int NUMBER_OF_ALL = 1;
     private static final int NUMBER_OF_LETTERS = 2;
 
-    /** Answers that something is not there, or that what was read is wrong: all else is 0 or more. */
+    /** What is not there, or was read wrong: all that is there is told by 0 or more. */
     private static final int NONE = -1;
 
     /** The row of a table that has one row alone. */
@@ -500,9 +501,9 @@ public final class LearnedCodes {
         }
     }
 
-    /** The events that were read. */
+    /** The events that were read; one more than the most is read at times, but never asked for. */
     private static final class Events {
-        private final int[][] parts = new int[EVENT_PARTS][MOST_EVENTS + 1];
+        private final int[][] parts = new int[EVENT_PARTS][MOST_EVENTS];
         int size;
 
         void forget() {
@@ -510,7 +511,7 @@ public final class LearnedCodes {
         }
 
         void add(int kind, int space, int local, int value) {
-            if (size <= MOST_EVENTS) {
+            if (size < MOST_EVENTS) {
                 parts[KIND][size] = kind;
                 parts[SPACE][size] = space;
                 parts[LOCAL][size] = local;
@@ -697,12 +698,11 @@ public final class LearnedCodes {
 
         private void tellNumber(int number) {
             int rest = number;
-            for (int group = 1; group < MOST_GROUPS && rest >= 1 << GROUP_BITS; group++) {
-                output.append(1, 1);
-                output.append(rest, GROUP_BITS);
-                rest = rest >> GROUP_BITS;
+            for (int group = 1; group < MOST_GROUPS && rest >= GROUP_BASE; group++) {
+                output.append(GROUP_BASE + rest % GROUP_BASE, 1 + GROUP_BITS);
+                rest = rest / GROUP_BASE;
             }
-            output.append(rest, GROUP_BITS + 1);
+            output.append(rest, 1 + GROUP_BITS);
         }
 
         private void tellPlace(int place, int choices) {
@@ -900,14 +900,15 @@ public final class LearnedCodes {
 
         private int takeNumber() {
             int number = 0;
+            int worth = 1;
             for (int group = 0; group < MOST_GROUPS; group++) {
-                int more = takeBits(1);
-                int digit = takeBits(GROUP_BITS);
-                if (more == NONE || digit == NONE) {
+                int told = takeBits(1 + GROUP_BITS);
+                if (told == NONE) {
                     return NONE;
                 }
-                number = number + (digit << (group * GROUP_BITS));
-                if (more == 0) {
+                number = number + worth * (told % GROUP_BASE);
+                worth = worth * GROUP_BASE;
+                if (told < GROUP_BASE) {
                     return number;
                 }
             }

@@ -9,8 +9,8 @@ import java.util.regex.Pattern;
 public final class LanguageTest {
     private static final Path SOURCE = Path.of("src/main/java/LearnedCodes.java");
 
-    private static final List<String> FORBIDDEN = List.of("\\bimport\\b", "\\bpackage\\b", "->", "::",
-            "\\bfinally\\b", "\\btry\\b", "\\bsynchronized\\b", "\\bassert\\b", "\\bstatic \\{",
+    private static final List<String> FORBIDDEN = List.of("\\bimport\\b", "\\bpackage\\b", "->",
+            "::", "\\bfinally\\b", "\\btry\\b", "\\bsynchronized\\b", "\\bassert\\b", "\\bstatic \\{",
             "\\bprotected\\b", "\\bThread\\b", "\\bRandom\\b", "\\bHash\\w*", "\\bvar\\b",
             "Exact\\(", "currentTimeMillis", "nanoTime", "while \\(true\\)", "for \\(;;\\)");
 
@@ -22,13 +22,14 @@ public final class LanguageTest {
         String code = source.replaceAll("(?s)/\\*.*?\\*/", "").replaceAll("//.*", "")
                 .replaceAll("\"[^\"]*\"", "\"\"");
         for (String forbidden : FORBIDDEN) {
-            Check.due(forbidden + " is there", Pattern.compile(forbidden).matcher(code).find(), false);
+            Check.due(forbidden + " is there", count(code, forbidden), 0);
         }
         Check.due("at most twelve classes", count(code, "\\bclass \\w+") <= 12, true);
         Check.due("throw statements of the kinds that may be thrown",
                 count(code, "\\bthrow new (IllegalState|IllegalArgument|IndexOutOfBounds"
                         + "|UnsupportedOperation)(Exception)\\("), count(code, "\\bthrow\\b"));
-        Check.due("statics that are not final", count(code, "\\bstatic (?!final)\\w+ \\w+ ?[=;]"), 0);
+        Check.due("statics that are not final",
+                count(code, "\\bstatic (?!final)\\w+ \\w+ ?[=;]"), 0);
         Check.due("methods inside with names of the face",
                 count(code, "(?m)^ ++(?!public )[\\w\\[\\] ]*\\b(int|void|boolean) (" + FACE_NAMES
                         + ")\\("), 0);
@@ -52,8 +53,8 @@ public final class LanguageTest {
         while (matcher.find()) {
             methods++;
             int lines = count(matcher.group(), "\\n");
-            Check.due("lines of " + matcher.group().trim().split("\\n")[0] + " are short", lines <= 60,
-                    true);
+            String name = matcher.group().trim().split("\\n")[0];
+            Check.due("lines of " + name + " are few", lines <= 60, true);
         }
         Check.due("methods are found", methods > 60, true);
     }

@@ -481,7 +481,8 @@ final class Model {
     void attribute(int space, int local, int value) {
         Event e = new Event("attribute", letters(space), letters(local), letters(value));
         needLocal(e.local);
-        String last = writtenEvents.isEmpty() ? "" : writtenEvents.get(writtenEvents.size() - 1).kind;
+        int before = writtenEvents.size() - 1;
+        String last = before < 0 ? "" : writtenEvents.get(before).kind;
         need(last.equals("open") || last.equals("attribute"));
         write(e);
     }

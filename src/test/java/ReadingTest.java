@@ -139,6 +139,7 @@ public final class ReadingTest {
         wrongBehind("second letter of two", "1 0010 0001 0000");
         wrongBehind("letter of a space", "0 0001 0000");
         wrongBehind("letter of a value", OPEN_A, "11 0011 0000");
+        wrongBehind("letter of an attribute", OPEN_A, "01 1 0000 0100 0001 1100 0011");
     }
 
     private static void wrongPlaces() {
@@ -162,6 +163,8 @@ public final class ReadingTest {
         wrongBehind("no value at all", OPEN_A, "11 0001");
         wrongBehind("no value of this name", OPEN_A, "01 1 0001 0010 0011 0001",
                 "1 11 0000");
+        wrongBehind("no value of the attribute", OPEN_A, "01 1 0000 0000");
+        wrongBehind("no value for the attribute", OPEN_A, "01 1 0000 0001");
         wrongBehind("the empty one comes into no table", OPEN_A, "11 0010", "1 1 0000");
         wrongBehind("the empty one is not among all", OPEN_A, "11 0010", "1 1 0001");
         wrongBehind("one of all does not come to the name", OPEN_A, "01 1 0001 0010 0011 0001",

@@ -182,14 +182,15 @@ public final class WritingTest {
         x.text(Code.text("bf"));
         x.text(Code.text("bg"));
         x.text(Code.text("de"));
-        x.text(Code.text("ee"));
-        x.text(Code.text("ef"));
+        x.text(Code.text("ec"));
+        x.text(Code.text("ed"));
         x.text(Code.text("eg"));
         x.text(Code.text("eg"));
-        // codes of a: four OPENs and TEXT, which is the last; all has six each of b, c and d
+        // codes of a: four OPENs and TEXT, which is the last one; among all are six that begin
+        // with b, c and d each, and two that begin with e
         Check.due("full tables of values", Code.kept(x).substring(before),
                 Code.join("100 0000 100", "100 0001 00101", "100 0001 01111",
-                        "100 0100 0101 0101", "100 0100 0101 0110", "100 0100 0101 0111",
+                        "100 0001 10011", "100 0100 0101 0100", "100 0100 0101 0111",
                         "100 0100 0101 0111"));
     }
 
@@ -284,8 +285,9 @@ public final class WritingTest {
         x.attribute(0, 1, 0);
         x.attribute(1, 11, 0);
         x.attribute(0, 10, 0);
-        Check.due("place of 10", Code.kept(x).substring(before), Code.join("1001 01 1 0000 0000 0010",
-                "1010 01 0 0001 0001 0001 1011 0001 0010", "0010 0010"));
+        Check.due("place of 10", Code.kept(x).substring(before),
+                Code.join("1001 01 1 0000 0000 0010",
+                        "1010 01 0 0001 0001 0001 1011 0001 0010", "0010 0010"));
     }
 
     private static void fullNames() {
