@@ -7,16 +7,38 @@ final class Check {
     private static final int MOST_TOLD = 30;
 
     private static int wrong = 0;
+    private static int checks = 0;
+    private static String sentence = "";
 
     private Check() {
     }
 
+    /** A test of its own for what these words of the document say; it must check something. */
+    static void sentence(String words, Runnable test) {
+        int before = checks;
+        sentence = "\"" + words + "\": ";
+        try {
+            test.run();
+        } catch (RuntimeException e) {
+            fail("a call that is due to answer threw " + e);
+        }
+        if (checks == before) {
+            fail("nothing was checked");
+        }
+        sentence = "";
+    }
+
     static void due(String what, Object got, Object want) {
+        checks++;
         if (!String.valueOf(got).equals(String.valueOf(want))) {
-            wrong++;
-            if (wrong <= MOST_TOLD) {
-                System.out.println(what + " answered " + got + ", due is " + want);
-            }
+            fail(what + " answered " + got + ", due is " + want);
+        }
+    }
+
+    private static void fail(String told) {
+        wrong++;
+        if (wrong <= MOST_TOLD) {
+            System.out.println(sentence + told);
         }
     }
 

@@ -50,15 +50,24 @@ final class Code {
     }
 
     static String stream(LearnedCodes x, int count) {
+        return stream(x, 0, count);
+    }
+
+    private static String stream(LearnedCodes x, int from, int to) {
         StringBuilder bits = new StringBuilder();
-        for (int i = 0; i < count; i++) {
+        for (int i = from; i < to; i++) {
             bits.append(x.bit(i));
         }
         return bits.toString();
     }
 
     static String kept(LearnedCodes x) {
-        return stream(x, x.keep());
+        return keptFrom(x, 0);
+    }
+
+    /** What was written behind the first bits, by no more calls than needed. */
+    static String keptFrom(LearnedCodes x, int before) {
+        return stream(x, before, x.keep());
     }
 
     static String event(LearnedCodes x, int i) {
