@@ -27,6 +27,8 @@ public final class CodeEdgesTest {
         Check.sentence("and there are fewer than 12.", CodeEdgesTest::fewerThanTwelveAreRead);
         Check.sentence("of OPEN and ATTRIBUTE that were not learned, the name",
                 CodeEdgesTest::nameOfNotLearned);
+        Check.sentence("of ATTRIBUTE the value, by the tables of its name; of TEXT the value, "
+                + "by those of its element's name.", CodeEdgesTest::valuesOfWhichName);
         Check.sentence("The first OPEN has no code; its name comes at once.",
                 CodeEdgesTest::firstOpen);
         Check.sentence("Behind the last CLOSE there is nothing.", CodeEdgesTest::lastClose);
@@ -367,6 +369,30 @@ public final class CodeEdgesTest {
         readsBack(x, 5);
         Check.due("the learned attribute has the name", Code.event(x, 2), "2 2 1 0");
         Check.due("the learned element has the name", Code.event(x, 4), "1 2 1 0");
+    }
+
+    private static void valuesOfWhichName() {
+        LearnedCodes x = new LearnedCodes();
+        x.open(0, 1);
+        x.attribute(0, 2, 3);
+        x.attribute(0, 3, 4);
+        x.text(5);
+        x.open(0, 2);
+        x.text(3);
+        x.text(5);
+        x.close();
+        x.text(5);
+        x.text(4);
+        x.open(0, 3);
+        x.text(4);
+        Check.due("of b, c and a", Code.kept(x), Code.join(OPEN_A, "01 1 0001 0010 0011 0011",
+                "1 01 1 0001 0011 0011 0100", "10 11 0011 0101", "1 0 1 0000 01", "11 0000",
+                "1 1 0001 10", "01", "10 1 0000", "00 0001 01", "11 0 1 0000 10", "11 0000"));
+        readsBack(x, 12);
+        Check.due("of b", Code.event(x, 5), "3 0 0 3");
+        Check.due("of all", Code.event(x, 6), "3 0 0 5");
+        Check.due("of a", Code.event(x, 8), "3 0 0 5");
+        Check.due("of c", Code.event(x, 11), "3 0 0 4");
     }
 
     private static void firstOpen() {

@@ -142,7 +142,7 @@ public final class ElementEdgesTest {
         Check.refused("ninth, behind text", Refused.FULL, () -> x.open(0, 1));
         Check.due("close", x.close(), 7);
         x.open(1, 2);
-        Check.due("the new name was not there, nor its code", Code.kept(x).substring(before),
+        Check.due("the new name was not there, nor its code", Code.keptFrom(x, before),
                 Code.join("1 11 0010", "0", "1 0 0 0001 0001 0001 0010"));
     }
 
@@ -150,7 +150,7 @@ public final class ElementEdgesTest {
         LearnedCodes x = opened(8);
         int before = x.written();
         x.attribute(0, 1, 0);
-        Check.due("attribute", Code.kept(x).substring(before), Code.join("1 01 1 0000 0010"));
+        Check.due("attribute", Code.keptFrom(x, before), Code.join("1 01 1 0000 0010"));
         Check.due("close", x.close(), 7);
     }
 

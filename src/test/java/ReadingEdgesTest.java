@@ -107,6 +107,10 @@ public final class ReadingEdgesTest {
         x.push(false);
         Check.due("read", Check.outcome(() -> x.read()), 3);
         Check.due("there are events again", x.event(2, 0), 4);
+        LearnedCodes y = Code.streamOf("1 0000 1111 1111");
+        Reads.isWrong("no local part", y, 5);
+        noEvents(y);
+        Check.due("bits that were not taken stay", y.push(true), 14);
     }
 
     private static void noEventsWhenTooMany() {

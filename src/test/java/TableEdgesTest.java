@@ -5,6 +5,7 @@ public final class TableEdgesTest {
     public static void main(String[] args) {
         Check.sentence("TABLES, in the order in which things came, for each document anew.",
                 TableEdgesTest::anew);
+        Check.sentence("for each document anew: when they were full", TableEdgesTest::fullAnew);
         Check.sentence("SPACES (at first the empty one,", TableEdgesTest::emptySpaceIsThere);
         Check.sentence("SPACES (at most 6)", TableEdgesTest::sixSpacesAreRead);
         Check.sentence("open: a table of spaces is full and would get one more",
@@ -27,6 +28,8 @@ public final class TableEdgesTest {
         Check.sentence("NAMES are pairs of a space and a local part, as texts, that came",
                 TableEdgesTest::namesAreTexts);
         Check.sentence("NAMES (at most 20 in all)", TableEdgesTest::twentyNamesAreRead);
+        Check.sentence("NAMES that came: those of calls that were refused did not",
+                TableEdgesTest::refusedNamesDidNotCome);
         Check.sentence("open: a table of names is full and would get one more",
                 TableEdgesTest::openOfName21);
         Check.sentence("attribute: a table of names is full and would get one more",
@@ -53,6 +56,38 @@ public final class TableEdgesTest {
             Check.due("again", x.again(), bits.length());
             x.clear();
         }
+    }
+
+    /** Twenty names, with spaces, local parts and values that are none of the others'. */
+    private static void writeOthers(LearnedCodes x) {
+        x.open(4, 10);
+        for (int i = 1; i < 20; i++) {
+            x.attribute(4 + i / 9, 10 + i % 9, 7 + i);
+        }
+        Check.refused("the 21st name", Refused.FULL, () -> x.attribute(4, 9, 0));
+        Check.due("close", x.close(), 0);
+    }
+
+    private static void fullAnew() {
+        LearnedCodes fresh = new LearnedCodes();
+        writeOthers(fresh);
+        String bits = Code.keptFrom(fresh, fresh.written() - 100);
+        LearnedCodes x = names(20);
+        x.close();
+        x.keep();
+        Check.due("twenty names", Check.outcome(() -> x.read()), 21);
+        x.clear();
+        writeOthers(x);
+        Check.due("other names", x.written(), fresh.written());
+        Check.due("their bits", Code.keptFrom(x, x.written() - 100), bits);
+        Check.due("read", Check.outcome(() -> x.read()), 21);
+        Check.due("taken", x.taken(), fresh.written());
+        for (int i = 1; i < 20; i++) {
+            Check.due("event " + i, Code.event(x, i),
+                    "2 " + (4 + i / 9) + " " + (10 + i % 9) + " " + (7 + i));
+        }
+        Check.due("again", Check.outcome(() -> x.again()), fresh.written());
+        Check.due("their bits", Code.keptFrom(x, x.written() - 20), bits.substring(80));
     }
 
     private static void emptySpaceIsThere() {
@@ -277,6 +312,22 @@ public final class TableEdgesTest {
         Reads.wrong("the 21st is opened", names(20), "1100 10 11 0001 0011");
         Reads.wrong("the 21st in another space", names(20), "1100 01 01 0001 1010 0001");
         Reads.wrong("the 21st in a new space", names(20), "1100 01 00 0001 0011 0001 0001");
+    }
+
+    private static void refusedNamesDidNotCome() {
+        LearnedCodes x = names(19);
+        Check.refused("no value", Refused.ARGUMENT, () -> x.attribute(0, 10, 27));
+        Check.refused("no space", Refused.ARGUMENT, () -> x.open(27, 10));
+        for (int i = 2; i <= 8; i++) {
+            x.open(0, 1);
+        }
+        Check.refused("a ninth element", Refused.FULL, () -> x.open(0, 10));
+        x.text(0);
+        Check.refused("an attribute behind text", Refused.STATE, () -> x.attribute(0, 10, 1));
+        x.close();
+        x.open(2, 2);
+        Check.due("the twentieth goes", x.close(), 7);
+        Check.refused("the 21st does not", Refused.FULL, () -> x.open(2, 3));
     }
 
     private static void openOfName21() {

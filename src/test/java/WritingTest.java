@@ -121,7 +121,7 @@ public final class WritingTest {
         x.attribute(1, 3, 0);
         x.attribute(0, 1, 0);
         x.close();
-        Check.due("13th code in TAG", Code.kept(x).substring(before),
+        Check.due("13th code in TAG", Code.keptFrom(x, before),
                 Code.join("1100 01 10 0001 0100 0010", "1100 01 10 0000 11 0010",
                         "0000 0010", "1011 0010", "1100 00"));
     }
@@ -143,7 +143,7 @@ public final class WritingTest {
         x.open(1, 3);
         x.close();
         x.close();
-        Check.due("13th code in CONTENT", Code.kept(x).substring(before),
+        Check.due("13th code in CONTENT", Code.keptFrom(x, before),
                 Code.join("1101 1 0010", "1010", "0", "1101 0 10 0001 0100", "00",
                         "0000", "0", "1100"));
     }
@@ -188,7 +188,7 @@ public final class WritingTest {
         x.text(Code.text("eg"));
         // codes of a: four OPENs and TEXT, which is the last one; among all are six that begin
         // with b, c and d each, and two that begin with e
-        Check.due("full tables of values", Code.kept(x).substring(before),
+        Check.due("full tables of values", Code.keptFrom(x, before),
                 Code.join("100 0000 100", "100 0001 00101", "100 0001 01111",
                         "100 0001 10011", "100 0100 0101 0100", "100 0100 0101 0111",
                         "100 0100 0101 0111"));
@@ -268,7 +268,7 @@ public final class WritingTest {
         Check.refused("open of the 7th space", FULL, () -> x.open(6, 1));
         Check.due("nothing of these is written", x.written(), before);
         x.attribute(5, 2, 0);
-        Check.due("place of 7", Code.kept(x).substring(before), Code.join("101 01 110",
+        Check.due("place of 7", Code.keptFrom(x, before), Code.join("101 01 110",
                 "0001 0010", "0010"));
     }
 
@@ -285,7 +285,7 @@ public final class WritingTest {
         x.attribute(0, 1, 0);
         x.attribute(1, 11, 0);
         x.attribute(0, 10, 0);
-        Check.due("place of 10", Code.kept(x).substring(before),
+        Check.due("place of 10", Code.keptFrom(x, before),
                 Code.join("1001 01 1 0000 0000 0010",
                         "1010 01 0 0001 0001 0001 1011 0001 0010", "0010 0010"));
     }

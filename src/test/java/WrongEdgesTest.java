@@ -264,6 +264,8 @@ public final class WrongEdgesTest {
             Check.due("read, " + behind + " behind", Check.outcome(() -> x.read()), 3);
             Check.due("taken, " + behind + " behind", x.taken(), whole.length());
             Check.refused("no more events", Refused.INDEX, () -> x.event(3, 0));
+            Check.due("they stay in the stream", x.push(true),
+                    Code.join(whole, behind).length() + 1);
         }
         LearnedCodes inner = Code.streamOf(OPEN_A, "10 1 0001 0010", "00");
         Reads.isWrong("behind the inner CLOSE a bit is missing", inner, 22);
