@@ -1,18 +1,24 @@
 /** The edges of promise 16: the events that were read are written again. */
 public final class AgainEdgesTest {
     public static void main(String[] args) {
-        Check.sentence("The events that were read last are written, from the first one on,",
+        Check.sentence("Promise 16",
+                "The events that were read last are written, from the first one on,",
                 AgainEdgesTest::fromTheFirst);
-        Check.sentence("instead of what is written: how many bits.", AgainEdgesTest::instead);
-        Check.sentence("again: IllegalStateException: none were read",
+        Check.sentence("Promise 16", "instead of what is written: how many bits.",
+                AgainEdgesTest::instead);
+        Check.sentence("Promise 16", "IllegalStateException: none were read",
                 AgainEdgesTest::noneWereRead);
-        Check.sentence("again: UnsupportedOperationException: some event could not be written: "
-                + "attribute", AgainEdgesTest::attributeOfEleventhLocal);
-        Check.sentence("again: UnsupportedOperationException: some event could not be written: "
-                + "open", AgainEdgesTest::openOfEleventhLocal);
-        Check.sentence("again: UnsupportedOperationException: some event could not be written: "
-                + "more than 3800 bits", AgainEdgesTest::tooManyBits);
-        Check.sentence("(then nothing is written).", AgainEdgesTest::nothingIsWritten);
+        Check.sentence("Promise 16, attribute",
+                "UnsupportedOperationException: some event could not be written",
+                AgainEdgesTest::attributeOfEleventhLocal);
+        Check.sentence("Promise 16, open",
+                "UnsupportedOperationException: some event could not be written",
+                AgainEdgesTest::openOfEleventhLocal);
+        Check.sentence("Promise 16, more than 3800 bits",
+                "UnsupportedOperationException: some event could not be written",
+                AgainEdgesTest::tooManyBits);
+        Check.sentence("Promise 16", "(then nothing is written).",
+                AgainEdgesTest::nothingIsWritten);
         Check.end();
     }
 

@@ -7,27 +7,28 @@ public final class BitEdgesTest {
     private static final String OPEN_A = "1 0001 0001";
 
     public static void main(String[] args) {
-        Check.sentence("a PLACE v of m is v in n bits, n being the least with 2^n not below m: "
-                + "in TAG", BitEdgesTest::placesInTag);
-        Check.sentence("a PLACE v of m is v in n bits, n being the least with 2^n not below m: "
-                + "in CONTENT", BitEdgesTest::placesInContent);
-        Check.sentence("a PLACE v of m is v in n bits, n being the least with 2^n not below m: "
-                + "spaces", BitEdgesTest::placesOfSpaces);
-        Check.sentence("a PLACE v of m is v in n bits, n being the least with 2^n not below m: "
-                + "local parts", BitEdgesTest::placesOfLocals);
-        Check.sentence("a PLACE v of m is v in n bits, n being the least with 2^n not below m: "
-                + "values of a name", BitEdgesTest::placesOfValues);
-        Check.sentence("a PLACE v of m is v in n bits, n being the least with 2^n not below m: "
-                + "all values", BitEdgesTest::placesOfAllValues);
-        Check.sentence("the highest one first", BitEdgesTest::highestFirst);
-        Check.sentence("(0 bits for m = 1)", BitEdgesTest::placeOfOne);
-        Check.sentence("A NUMBER is its groups of three bits, the lowest group first, each with "
-                + "a 1 in front if another group follows, else a 0", BitEdgesTest::groups);
-        Check.sentence("(at least one group;", BitEdgesTest::leastGroups);
-        Check.sentence("a written one has no more than are needed,",
+        Check.sentence("Terms, in TAG", "n being the least with 2^n not below m",
+                BitEdgesTest::placesInTag);
+        Check.sentence("Terms, in CONTENT", "n being the least with 2^n not below m",
+                BitEdgesTest::placesInContent);
+        Check.sentence("Terms, spaces", "n being the least with 2^n not below m",
+                BitEdgesTest::placesOfSpaces);
+        Check.sentence("Terms, local parts", "n being the least with 2^n not below m",
+                BitEdgesTest::placesOfLocals);
+        Check.sentence("Terms, values of a name", "n being the least with 2^n not below m",
+                BitEdgesTest::placesOfValues);
+        Check.sentence("Terms, all values", "n being the least with 2^n not below m",
+                BitEdgesTest::placesOfAllValues);
+        Check.sentence("Terms", "the highest one first", BitEdgesTest::highestFirst);
+        Check.sentence("Terms", "(0 bits for m = 1)", BitEdgesTest::placeOfOne);
+        Check.sentence("Terms",
+                "A NUMBER is its groups of three bits, the lowest group first, each with a 1 "
+                + "in front if another group follows, else a 0", BitEdgesTest::groups);
+        Check.sentence("Terms", "(at least one group;", BitEdgesTest::leastGroups);
+        Check.sentence("Terms", "a written one has no more than are needed,",
                 BitEdgesTest::neededGroups);
-        Check.sentence("one that is read may have up to four).", BitEdgesTest::fourGroups);
-        Check.sentence("a number has more than four groups (told behind the fourth)",
+        Check.sentence("Terms", "one that is read may have up to four).", BitEdgesTest::fourGroups);
+        Check.sentence("Terms", "a number has more than four groups (told behind the fourth)",
                 BitEdgesTest::fiveGroups);
         Check.end();
     }

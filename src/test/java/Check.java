@@ -14,9 +14,9 @@ final class Check {
     }
 
     /** A test of its own for what these words of the document say; it must check something. */
-    static void sentence(String words, Runnable test) {
+    static void sentence(String where, String words, Runnable test) {
         int before = checks;
-        sentence = "\"" + words + "\": ";
+        sentence = where + ", \"" + words + "\": ";
         try {
             test.run();
         } catch (RuntimeException e) {

@@ -3,38 +3,48 @@ public final class CodeEdgesTest {
     private static final String OPEN_A = "1 0001 0001";
 
     public static void main(String[] args) {
-        Check.sentence("each name has two rows of CODES that it LEARNED, TAG and CONTENT, "
-                + "at first empty", CodeEdgesTest::atFirstEmpty);
-        Check.sentence("at most 12 in each: TAG, ATTRIBUTE", CodeEdgesTest::twelfthAttribute);
-        Check.sentence("at most 12 in each: TAG, TEXT", CodeEdgesTest::twelfthTextInTag);
-        Check.sentence("at most 12 in each: TAG, OPEN", CodeEdgesTest::twelfthOpenInTag);
-        Check.sentence("at most 12 in each: TAG, CLOSE", CodeEdgesTest::twelfthCloseInTag);
-        Check.sentence("at most 12 in each: CONTENT, OPEN", CodeEdgesTest::twelfthOpen);
-        Check.sentence("at most 12 in each: CONTENT, TEXT", CodeEdgesTest::twelfthText);
-        Check.sentence("at most 12 in each: one row may be full and the other not",
+        Check.sentence("Terms",
+                "each name has two rows of CODES that it LEARNED, TAG and CONTENT, at first "
+                + "empty", CodeEdgesTest::atFirstEmpty);
+        Check.sentence("Terms, TAG, ATTRIBUTE", "at most 12 in each",
+                CodeEdgesTest::twelfthAttribute);
+        Check.sentence("Terms, TAG, TEXT", "at most 12 in each", CodeEdgesTest::twelfthTextInTag);
+        Check.sentence("Terms, TAG, OPEN", "at most 12 in each", CodeEdgesTest::twelfthOpenInTag);
+        Check.sentence("Terms, TAG, CLOSE", "at most 12 in each", CodeEdgesTest::twelfthCloseInTag);
+        Check.sentence("Terms, CONTENT, OPEN", "at most 12 in each", CodeEdgesTest::twelfthOpen);
+        Check.sentence("Terms, CONTENT, TEXT", "at most 12 in each", CodeEdgesTest::twelfthText);
+        Check.sentence("Terms, one row may be full and the other not", "at most 12 in each",
                 CodeEdgesTest::oneRowIsFull);
-        Check.sentence("In an element of the name, up to the first text or element in it, "
-                + "TAG says what may come", CodeEdgesTest::upToTheFirst);
-        Check.sentence("a place, of one more than it has: that of a learned code, or as many as "
+        Check.sentence("Terms",
+                "In an element of the name, up to the first text or element in it, TAG says "
+                + "what may come", CodeEdgesTest::upToTheFirst);
+        Check.sentence("Terms",
+                "a place, of one more than it has: that of a learned code, or as many as "
                 + "there are, and then a place of 4: 0 CLOSE, 1 ATTRIBUTE, 2 OPEN, 3 TEXT.",
                 CodeEdgesTest::placesOfTag);
-        Check.sentence("Then CONTENT does: a place, of two more than it has: that of a learned "
-                + "code; or as many as there are: CLOSE; or one more, and then a place of 2: "
-                + "0 OPEN, 1 TEXT.", CodeEdgesTest::placesOfContent);
-        Check.sentence("What is told by that last place is learned: it comes in front of the "
-                + "row's others,", CodeEdgesTest::inFront);
-        Check.sentence("if it is not there yet", CodeEdgesTest::notThereYet);
-        Check.sentence("and there are fewer than 12.", CodeEdgesTest::fewerThanTwelveAreRead);
-        Check.sentence("of OPEN and ATTRIBUTE that were not learned, the name",
+        Check.sentence("Terms",
+                "Then CONTENT does: a place, of two more than it has: that of a learned "
+                + "code; or as many as there are: CLOSE; or one more, and then a place of 2: 0 "
+                + "OPEN, 1 TEXT.", CodeEdgesTest::placesOfContent);
+        Check.sentence("Terms",
+                "What is told by that last place is learned: it comes in front of the row's "
+                + "others,", CodeEdgesTest::inFront);
+        Check.sentence("Terms", "if it is not there yet", CodeEdgesTest::notThereYet);
+        Check.sentence("Terms", "and there are fewer than 12.",
+                CodeEdgesTest::fewerThanTwelveAreRead);
+        Check.sentence("Terms", "of OPEN and ATTRIBUTE that were not learned, the name",
                 CodeEdgesTest::nameOfNotLearned);
-        Check.sentence("of ATTRIBUTE the value, by the tables of its name; of TEXT the value, "
-                + "by those of its element's name.", CodeEdgesTest::valuesOfWhichName);
-        Check.sentence("The first OPEN has no code; its name comes at once.",
+        Check.sentence("Terms",
+                "of ATTRIBUTE the value, by the tables of its name; of TEXT the value, by "
+                + "those of its element's name.", CodeEdgesTest::valuesOfWhichName);
+        Check.sentence("Terms", "The first OPEN has no code; its name comes at once.",
                 CodeEdgesTest::firstOpen);
-        Check.sentence("Behind the last CLOSE there is nothing.", CodeEdgesTest::lastClose);
-        Check.sentence("WRITING a document event by event, a learned code is taken if there "
-                + "is one.", CodeEdgesTest::learnedIsTaken);
-        Check.sentence("READING goes by whatever codes there are.",
+        Check.sentence("Terms", "Behind the last CLOSE there is nothing.",
+                CodeEdgesTest::lastClose);
+        Check.sentence("Terms",
+                "WRITING a document event by event, a learned code is taken if there is one.",
+                CodeEdgesTest::learnedIsTaken);
+        Check.sentence("Terms", "READING goes by whatever codes there are.",
                 CodeEdgesTest::whateverCodes);
         Check.end();
     }

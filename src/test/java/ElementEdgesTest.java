@@ -1,30 +1,31 @@
 /** The edges of a document and its elements, of the Terms and of promises 2 to 6. */
 public final class ElementEdgesTest {
     public static void main(String[] args) {
-        Check.sentence("It is one element: OPEN,", ElementEdgesTest::openIsFirst);
-        Check.sentence("then attributes,", ElementEdgesTest::attributesComeFirst);
-        Check.sentence("then any texts and elements, one behind the other,",
+        Check.sentence("Terms", "It is one element: OPEN,", ElementEdgesTest::openIsFirst);
+        Check.sentence("Terms", "then attributes,", ElementEdgesTest::attributesComeFirst);
+        Check.sentence("Terms", "then any texts and elements, one behind the other,",
                 ElementEdgesTest::anyTextsAndElements);
-        Check.sentence("then CLOSE.", ElementEdgesTest::closeIsLast);
-        Check.sentence("At most 8 elements are open at one time.",
+        Check.sentence("Terms", "then CLOSE.", ElementEdgesTest::closeIsLast);
+        Check.sentence("Terms", "At most 8 elements are open at one time.",
                 ElementEdgesTest::eightAtOneTime);
-        Check.sentence("open: UnsupportedOperationException: 8 elements are open",
+        Check.sentence("Promise 2", "UnsupportedOperationException: 8 elements are open",
                 ElementEdgesTest::openInTheEighth);
-        Check.sentence("attribute: UnsupportedOperationException as for open "
-                + "(but for the elements)", ElementEdgesTest::attributeInTheEighth);
-        Check.sentence("open: IllegalStateException: the document is whole",
+        Check.sentence("Promise 3",
+                "UnsupportedOperationException as for open (but for the elements)",
+                ElementEdgesTest::attributeInTheEighth);
+        Check.sentence("Promise 2", "IllegalStateException: the document is whole",
                 ElementEdgesTest::openWhenWhole);
-        Check.sentence("attribute: IllegalStateException: no element is open",
+        Check.sentence("Promise 3", "IllegalStateException: no element is open",
                 ElementEdgesTest::attributeOutside);
-        Check.sentence("attribute: or the innermost one has text or an element already",
+        Check.sentence("Promise 3", "or the innermost one has text or an element already",
                 ElementEdgesTest::attributeInContent);
-        Check.sentence("text: IllegalStateException: no element is open",
+        Check.sentence("Promise 4", "IllegalStateException: no element is open",
                 ElementEdgesTest::textOutside);
-        Check.sentence("close: IllegalStateException: none is open",
+        Check.sentence("Promise 5", "IllegalStateException: none is open",
                 ElementEdgesTest::closeOutside);
-        Check.sentence("CLOSE is written: how many elements are open then.",
+        Check.sentence("Promise 5", "CLOSE is written: how many elements are open then.",
                 ElementEdgesTest::openThen);
-        Check.sentence("Nothing is written any more; a document may begin.",
+        Check.sentence("Promise 6", "Nothing is written any more; a document may begin.",
                 ElementEdgesTest::clearBegins);
         Check.end();
     }

@@ -10,7 +10,8 @@ public final class LanguageTest {
     private static final Path SOURCE = Path.of("src/main/java/LearnedCodes.java");
 
     private static final List<String> FORBIDDEN = List.of("\\bimport\\b", "\\bpackage\\b", "->",
-            "::", "\\bfinally\\b", "\\btry\\b", "\\bsynchronized\\b", "\\bassert\\b", "\\bstatic \\{",
+            "::", "\\bfinally\\b", "\\btry\\b", "\\bsynchronized\\b", "\\bassert\\b",
+            "\\bstatic \\{",
             "\\bprotected\\b", "\\bThread\\b", "\\bRandom\\b", "\\bHash\\w*", "\\bvar\\b",
             "Exact\\(", "currentTimeMillis", "nanoTime", "while \\(true\\)", "for \\(;;\\)");
 

@@ -3,25 +3,30 @@ public final class ReadingEdgesTest {
     private static final String OPEN_A = "1 0001 0001";
 
     public static void main(String[] args) {
-        Check.sentence("The stream is read: how many events.", ReadingEdgesTest::howMany);
-        Check.sentence("read: IllegalArgumentException: it is wrong within 201 events",
+        Check.sentence("Promise 13", "The stream is read: how many events.",
+                ReadingEdgesTest::howMany);
+        Check.sentence("Promise 13", "IllegalArgumentException: it is wrong within 201 events",
                 ReadingEdgesTest::wrongWithin201);
-        Check.sentence("read: UnsupportedOperationException: the 201st was read, and the "
-                + "document is not whole before.", ReadingEdgesTest::the201st);
-        Check.sentence("(When it throws, no events are read.) It is wrong:",
+        Check.sentence("Promise 13",
+                "UnsupportedOperationException: the 201st was read, and the document is not "
+                + "whole before.", ReadingEdgesTest::the201st);
+        Check.sentence("Promise 13, wrong", "(When it throws, no events are read.)",
                 ReadingEdgesTest::noEventsWhenWrong);
-        Check.sentence("(When it throws, no events are read.) It has too many:",
+        Check.sentence("Promise 13, too many", "(When it throws, no events are read.)",
                 ReadingEdgesTest::noEventsWhenTooMany);
-        Check.sentence("How many bits were taken when the stream was read last",
+        Check.sentence("Promise 14", "How many bits were taken when the stream was read last",
                 ReadingEdgesTest::takenLast);
-        Check.sentence("(or till it was wrong).", ReadingEdgesTest::takenTillWrong);
-        Check.sentence("Of event i that was read: what 0: its kind;", ReadingEdgesTest::kinds);
-        Check.sentence("1, 2: the space and local part of its name (0 for TEXT and CLOSE);",
+        Check.sentence("Promise 14", "(or till it was wrong).", ReadingEdgesTest::takenTillWrong);
+        Check.sentence("Promise 15", "Of event i that was read: what 0: its kind;",
+                ReadingEdgesTest::kinds);
+        Check.sentence("Promise 15",
+                "1, 2: the space and local part of its name (0 for TEXT and CLOSE);",
                 ReadingEdgesTest::names);
-        Check.sentence("3: its value (0 for OPEN and CLOSE).", ReadingEdgesTest::values);
-        Check.sentence("event: IndexOutOfBoundsException: there is no such event",
+        Check.sentence("Promise 15", "3: its value (0 for OPEN and CLOSE).",
+                ReadingEdgesTest::values);
+        Check.sentence("Promise 15", "IndexOutOfBoundsException: there is no such event",
                 ReadingEdgesTest::noEvent);
-        Check.sentence("event: IllegalArgumentException: what is not 0 .. 3.",
+        Check.sentence("Promise 15", "IllegalArgumentException: what is not 0 .. 3.",
                 ReadingEdgesTest::noPart);
         Check.end();
     }

@@ -3,18 +3,24 @@ public final class StreamEdgesTest {
     private static final int ZZZZZ = 14348906;
 
     public static void main(String[] args) {
-        Check.sentence("The stream is what is written, from now on: how many bits it has.",
+        Check.sentence("Promise 8",
+                "The stream is what is written, from now on: how many bits it has.",
                 StreamEdgesTest::keeps);
-        Check.sentence("One more bit in the stream: how many it has.", StreamEdgesTest::pushes);
-        Check.sentence("push: IllegalStateException: it has 4000.", StreamEdgesTest::full);
-        Check.sentence("Bit i of the stream, 0 or 1.", StreamEdgesTest::bits);
-        Check.sentence("bit: IndexOutOfBoundsException: it has none.", StreamEdgesTest::noBit);
-        Check.sentence("Bit i of the stream becomes the other one.", StreamEdgesTest::flips);
-        Check.sentence("flip: IndexOutOfBoundsException: it has none.", StreamEdgesTest::noFlip);
-        Check.sentence("The stream has its first n bits alone.", StreamEdgesTest::cuts);
-        Check.sentence("cut: IllegalArgumentException: n is below 0",
+        Check.sentence("Promise 9", "One more bit in the stream: how many it has.",
+                StreamEdgesTest::pushes);
+        Check.sentence("Promise 9", "IllegalStateException: it has 4000.", StreamEdgesTest::full);
+        Check.sentence("Promise 10", "Bit i of the stream, 0 or 1.", StreamEdgesTest::bits);
+        Check.sentence("Promise 10", "IndexOutOfBoundsException: it has none.",
+                StreamEdgesTest::noBit);
+        Check.sentence("Promise 11", "Bit i of the stream becomes the other one.",
+                StreamEdgesTest::flips);
+        Check.sentence("Promise 11", "IndexOutOfBoundsException: it has none.",
+                StreamEdgesTest::noFlip);
+        Check.sentence("Promise 12", "The stream has its first n bits alone.",
+                StreamEdgesTest::cuts);
+        Check.sentence("Promise 12", "IllegalArgumentException: n is below 0",
                 StreamEdgesTest::cutBelowZero);
-        Check.sentence("cut: or more than it has.", StreamEdgesTest::cutTooMany);
+        Check.sentence("Promise 12", "or more than it has.", StreamEdgesTest::cutTooMany);
         Check.end();
     }
 

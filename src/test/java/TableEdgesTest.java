@@ -3,36 +3,57 @@ public final class TableEdgesTest {
     private static final String OPEN_A = "1 0001 0001";
 
     public static void main(String[] args) {
-        Check.sentence("TABLES, in the order in which things came, for each document anew.",
+        Check.sentence("Terms",
+                "TABLES, in the order in which things came, for each document anew.",
                 TableEdgesTest::anew);
-        Check.sentence("for each document anew: when they were full", TableEdgesTest::fullAnew);
-        Check.sentence("SPACES (at first the empty one,", TableEdgesTest::emptySpaceIsThere);
-        Check.sentence("SPACES (at most 6)", TableEdgesTest::sixSpacesAreRead);
-        Check.sentence("open: a table of spaces is full and would get one more",
+        Check.sentence("Terms, when they were full", "for each document anew",
+                TableEdgesTest::fullAnew);
+        Check.sentence("Terms", "SPACES (at first the empty one,",
+                TableEdgesTest::emptySpaceIsThere);
+        Check.sentence("Terms", "SPACES (at first the empty one, at most 6)",
+                TableEdgesTest::sixSpacesAreRead);
+        Check.sentence("Promise 2, spaces",
+                "a table of spaces, local parts or names is full and would get one more",
                 TableEdgesTest::openOfSeventhSpace);
-        Check.sentence("attribute: a table of spaces is full and would get one more",
+        Check.sentence("Promise 3, spaces", "UnsupportedOperationException as for open",
                 TableEdgesTest::attributeOfSeventhSpace);
-        Check.sentence("What is told by letters comes into its table, even if it is there "
-                + "already: spaces", TableEdgesTest::spaceToldAgain);
-        Check.sentence("What is told by letters comes into its table, even if it is there "
-                + "already: local parts", TableEdgesTest::localToldAgain);
-        Check.sentence("What is told by letters comes into its table, even if it is there "
-                + "already: values", TableEdgesTest::valueToldAgain);
-        Check.sentence("what is there is told by its first place.", TableEdgesTest::firstPlace);
-        Check.sentence("LOCAL parts, for each place of the spaces", TableEdgesTest::eachPlace);
-        Check.sentence("LOCAL parts (at most 10)", TableEdgesTest::tenLocalsAreRead);
-        Check.sentence("open: a table of local parts is full and would get one more",
+        Check.sentence("Terms",
+                "one that is there is its place and 1 more, of one more than there are; "
+                + "another one is a 0 of as many, and then the number of its letters, and these.",
+                TableEdgesTest::howSpacesAreTold);
+        Check.sentence("Terms",
+                "one that is there is the number 0 and its place of those that there are; "
+                + "another one is the number of its letters, and these.",
+                TableEdgesTest::howLocalsAreTold);
+        Check.sentence("Terms, spaces",
+                "What is told by letters comes into its table, even if it is there already",
+                TableEdgesTest::spaceToldAgain);
+        Check.sentence("Terms, local parts",
+                "What is told by letters comes into its table, even if it is there already",
+                TableEdgesTest::localToldAgain);
+        Check.sentence("Terms, values",
+                "What is told by letters comes into its table, even if it is there already",
+                TableEdgesTest::valueToldAgain);
+        Check.sentence("Terms", "what is there is told by its first place.",
+                TableEdgesTest::firstPlace);
+        Check.sentence("Terms", "LOCAL parts, for each place of the spaces",
+                TableEdgesTest::eachPlace);
+        Check.sentence("Terms", "for each place of the spaces (at most 10)",
+                TableEdgesTest::tenLocalsAreRead);
+        Check.sentence("Promise 2, local parts",
+                "a table of spaces, local parts or names is full and would get one more",
                 TableEdgesTest::openOfEleventhLocal);
-        Check.sentence("attribute: a table of local parts is full and would get one more",
+        Check.sentence("Promise 3, local parts", "UnsupportedOperationException as for open",
                 TableEdgesTest::attributeOfEleventhLocal);
-        Check.sentence("NAMES are pairs of a space and a local part, as texts, that came",
+        Check.sentence("Terms", "NAMES are pairs of a space and a local part, as texts, that came",
                 TableEdgesTest::namesAreTexts);
-        Check.sentence("NAMES (at most 20 in all)", TableEdgesTest::twentyNamesAreRead);
-        Check.sentence("NAMES that came: those of calls that were refused did not",
+        Check.sentence("Terms", "(at most 20 in all)", TableEdgesTest::twentyNamesAreRead);
+        Check.sentence("Terms, names of refused calls", "as texts, that came",
                 TableEdgesTest::refusedNamesDidNotCome);
-        Check.sentence("open: a table of names is full and would get one more",
+        Check.sentence("Promise 2, names",
+                "a table of spaces, local parts or names is full and would get one more",
                 TableEdgesTest::openOfName21);
-        Check.sentence("attribute: a table of names is full and would get one more",
+        Check.sentence("Promise 3, names", "UnsupportedOperationException as for open",
                 TableEdgesTest::attributeOfName21);
         Check.end();
     }
@@ -95,7 +116,8 @@ public final class TableEdgesTest {
         Check.due("the empty one by its place", Code.kept(x), Code.join(OPEN_A));
         LearnedCodes y = new LearnedCodes();
         y.open(1, 1);
-        Check.due("another one by its letters", Code.kept(y), Code.join("0 0001 0001", "0001 0001"));
+        Check.due("another one by its letters", Code.kept(y),
+                Code.join("0 0001 0001", "0001 0001"));
         y.attribute(0, 1, 0);
         y.attribute(1, 2, 0);
         Check.due("the empty one is the first, the other the second", Code.keptFrom(y, 17),
@@ -150,6 +172,39 @@ public final class TableEdgesTest {
                 Code.join("101 01 110 0001 0010 0011 0001"));
         Refused.leavesAll("attribute", Refused.FULL, () -> spaces(6), y -> y.attribute(6, 1, 1));
         Check.due("the sixth goes", spaces(6).written(), spaces(5).written() + 3 + 2 + 3 + 20);
+    }
+
+    private static void howSpacesAreTold() {
+        LearnedCodes x = spaces(3);
+        int before = x.written();
+        x.attribute(0, 2, 0);
+        x.attribute(2, 2, 0);
+        x.attribute(Code.text("aaaaa"), 1, 0);
+        Check.due("the first, the last and a new one of five letters", Code.keptFrom(x, before),
+                Code.join("10 01 01 0001 0010 0010", "11 01 11 0001 0010 0010",
+                        "100 01 00 0101 0001 0001 0001 0001 0001 0001 0001 0010"));
+        Reads.whole("read", x, 7, "101 00");
+        Check.due("the first", Code.event(x, 3), "2 0 2 0");
+        Check.due("the last", Code.event(x, 4), "2 2 2 0");
+        Check.due("the new one", Code.event(x, 5), "2 " + Code.text("aaaaa") + " 1 0");
+        LearnedCodes y = spaces(1);
+        Reads.whole("one of no letters", y, 3, "01 0 0000 0001 0010 0010", "1 00");
+        Check.due("the empty one", Code.event(y, 1), "2 0 2 0");
+    }
+
+    private static void howLocalsAreTold() {
+        LearnedCodes x = locals(0, 3);
+        int before = x.written();
+        x.open(0, 1);
+        x.open(0, 3);
+        x.open(0, Code.text("aaaaa"));
+        Check.due("the first, the last and a new one of five letters", Code.keptFrom(x, before),
+                Code.join("10 10 1 0000 00", "11 10 1 0000 10",
+                        "10 1 0101 0001 0001 0001 0001 0001"));
+        Reads.whole("read", x, 10, "00", "0", "0", "0");
+        Check.due("the first", Code.event(x, 3), "1 0 1 0");
+        Check.due("the last", Code.event(x, 4), "1 0 3 0");
+        Check.due("the new one", Code.event(x, 5), "1 0 " + Code.text("aaaaa") + " 0");
     }
 
     private static void spaceToldAgain() {
@@ -224,7 +279,8 @@ public final class TableEdgesTest {
                         "1010 01 10 0001 0001 0010"));
         Check.refused("the first one is still full", Refused.FULL, () -> x.attribute(0, 11, 0));
         String secondPlace = "1001 01 0 0000 0001 1011 0001 0010";
-        Reads.whole("the same space at another place, too", locals(0, 10), 12, secondPlace, "1010 00");
+        Reads.whole("the same space at another place, too", locals(0, 10), 12, secondPlace,
+                "1010 00");
         Reads.wrong("which has none at first", locals(0, 10), "1001 01 0 0000 0000");
     }
 
@@ -296,7 +352,8 @@ public final class TableEdgesTest {
         Check.due("learned once", Code.event(x, 3), "2 1 2 3");
         Reads.whole("a name that came is not the 21st", names(20), 22,
                 "1100 01 00 0001 0001 0001 0001 0010", "1100 00");
-        Reads.wrong("a pair that did not come is", names(20), "1100 01 00 0001 0001 0001 1010 0001");
+        Reads.wrong("a pair that did not come is", names(20),
+                "1100 01 00 0001 0001 0001 1010 0001");
         LearnedCodes y = new LearnedCodes();
         y.open(1, 2);
         y.attribute(2, 1, 3);
@@ -355,8 +412,8 @@ public final class TableEdgesTest {
         Check.refused("in a new space", Refused.FULL, () -> x.attribute(3, 1, 1));
         Check.due("nothing is written", x.written(), before);
         x.attribute(2, 1, 1);
-        Check.due("three spaces and two local parts are there, and no value", Code.keptFrom(x, before),
-                Code.join("1100 01 11 0000 0 0011 0001"));
+        Check.due("three spaces and two local parts are there, and no value",
+                Code.keptFrom(x, before), Code.join("1100 01 11 0000 0 0011 0001"));
         Refused.leavesAll("attribute", Refused.FULL, () -> names(20),
                 y -> y.attribute(2, 3, 1));
         Refused.leavesAll("attribute in a new space", Refused.FULL, () -> names(20),

@@ -3,19 +3,20 @@ public final class TextEdgesTest {
     private static final int ZZZZZ = 14348906;
 
     public static void main(String[] args) {
-        Check.sentence("TEXTS are numbers: of at most five letters a .. z",
+        Check.sentence("Terms", "TEXTS are numbers: of at most five letters a .. z",
                 TextEdgesTest::fiveLetters);
-        Check.sentence("as digits 1 .. 26 to the base of 27", TextEdgesTest::digits);
-        Check.sentence("the first letter the lowest one", TextEdgesTest::firstLetter);
-        Check.sentence("(no digit 0 below another)", TextEdgesTest::digitZero);
-        Check.sentence("0 is the empty one.", TextEdgesTest::emptyText);
-        Check.sentence("A NAME is two texts, its SPACE, and its LOCAL part, which is not empty.",
+        Check.sentence("Terms", "as digits 1 .. 26 to the base of 27", TextEdgesTest::digits);
+        Check.sentence("Terms", "the first letter the lowest one", TextEdgesTest::firstLetter);
+        Check.sentence("Terms", "(no digit 0 below another)", TextEdgesTest::digitZero);
+        Check.sentence("Terms", "0 is the empty one.", TextEdgesTest::emptyText);
+        Check.sentence("Terms",
+                "A NAME is two texts, its SPACE, and its LOCAL part, which is not empty.",
                 TextEdgesTest::localPart);
-        Check.sentence("open: IllegalArgumentException: that is no name",
+        Check.sentence("Promise 2", "IllegalArgumentException: that is no name",
                 TextEdgesTest::openOfNoName);
-        Check.sentence("attribute: IllegalArgumentException: that is no name, or no value",
+        Check.sentence("Promise 3", "IllegalArgumentException: that is no name, or no value",
                 TextEdgesTest::attributeOfNoNameOrValue);
-        Check.sentence("text: IllegalArgumentException: that is no value",
+        Check.sentence("Promise 4", "IllegalArgumentException: that is no value",
                 TextEdgesTest::textOfNoValue);
         Check.end();
     }

@@ -3,25 +3,28 @@ public final class ValueEdgesTest {
     private static final String OPEN_A = "1 0001 0001";
 
     public static void main(String[] args) {
-        Check.sentence("VALUES of a name (at most 5)", ValueEdgesTest::fiveOfTextsAreWritten);
-        Check.sentence("VALUES of a name (at most 5): of an attribute",
+        Check.sentence("Terms", "VALUES of a name (at most 5)",
+                ValueEdgesTest::fiveOfTextsAreWritten);
+        Check.sentence("Terms, of an attribute", "VALUES of a name (at most 5)",
                 ValueEdgesTest::fiveOfAttributesAreWritten);
-        Check.sentence("VALUES of a name (at most 5): read", ValueEdgesTest::fiveAreRead);
-        Check.sentence("ALL values (at most 20)", ValueEdgesTest::twentyAreWritten);
-        Check.sentence("ALL values (at most 20): read", ValueEdgesTest::twentyAreRead);
-        Check.sentence("one that is a value of the name is the number 0 and its place of these;",
+        Check.sentence("Terms, read", "VALUES of a name (at most 5)", ValueEdgesTest::fiveAreRead);
+        Check.sentence("Terms", "ALL values (at most 20)", ValueEdgesTest::twentyAreWritten);
+        Check.sentence("Terms, read", "ALL values (at most 20)", ValueEdgesTest::twentyAreRead);
+        Check.sentence("Terms",
+                "one that is a value of the name is the number 0 and its place of these;",
                 ValueEdgesTest::ofTheNameFirst);
-        Check.sentence("else one that is among all is the number 1 and its place of all;",
+        Check.sentence("Terms", "else one that is among all is the number 1 and its place of all;",
                 ValueEdgesTest::amongAllNext);
-        Check.sentence("else it is the number of its letters and 2 more, and these,",
+        Check.sentence("Terms", "else it is the number of its letters and 2 more, and these,",
                 ValueEdgesTest::lettersLast);
-        Check.sentence("and if it is not empty, it comes into both tables",
+        Check.sentence("Terms", "and if it is not empty, it comes into both tables",
                 ValueEdgesTest::emptyComesIntoNone);
-        Check.sentence("(into one that is full it does not): that of the name",
+        Check.sentence("Terms, that of the name", "(into one that is full it does not)",
                 ValueEdgesTest::fullOfTheName);
-        Check.sentence("(into one that is full it does not): that of all",
+        Check.sentence("Terms, that of all", "(into one that is full it does not)",
                 ValueEdgesTest::fullOfAll);
-        Check.sentence("(into one that is full it does not): both", ValueEdgesTest::fullBoth);
+        Check.sentence("Terms, both", "(into one that is full it does not)",
+                ValueEdgesTest::fullBoth);
         Check.end();
     }
 

@@ -3,20 +3,24 @@ public final class WritingEdgesTest {
     private static final int ZZZZZ = 14348906;
 
     public static void main(String[] args) {
-        Check.sentence("An object is used for at most 512 calls after it has been made",
+        Check.sentence("What it is",
+                "An object is used for at most 512 calls after it has been made",
                 WritingEdgesTest::call512);
-        Check.sentence("Nothing is written,", WritingEdgesTest::nothingIsWritten);
-        Check.sentence("the stream is empty,", WritingEdgesTest::streamIsEmpty);
-        Check.sentence("nothing was read.", WritingEdgesTest::nothingWasRead);
-        Check.sentence("open: or more than 3800 bits are written", WritingEdgesTest::openAt3800);
-        Check.sentence("attribute: UnsupportedOperationException as for open: "
-                + "more than 3800 bits are written", WritingEdgesTest::attributeAt3800);
-        Check.sentence("text: UnsupportedOperationException: more than 3800 bits are written",
+        Check.sentence("Promise 1", "Nothing is written,", WritingEdgesTest::nothingIsWritten);
+        Check.sentence("Promise 1", "the stream is empty,", WritingEdgesTest::streamIsEmpty);
+        Check.sentence("Promise 1", "nothing was read.", WritingEdgesTest::nothingWasRead);
+        Check.sentence("Promise 2", "or more than 3800 bits are written",
+                WritingEdgesTest::openAt3800);
+        Check.sentence("Promise 3, 3800 bits", "UnsupportedOperationException as for open",
+                WritingEdgesTest::attributeAt3800);
+        Check.sentence("Promise 4",
+                "UnsupportedOperationException: more than 3800 bits are written",
                 WritingEdgesTest::textAt3800);
-        Check.sentence("close: UnsupportedOperationException: more than 3800 bits are written",
+        Check.sentence("Promise 5",
+                "UnsupportedOperationException: more than 3800 bits are written",
                 WritingEdgesTest::closeAt3800);
-        Check.sentence("clear: Nothing is written any more", WritingEdgesTest::clearAt3800);
-        Check.sentence("How many bits are written.", WritingEdgesTest::howMany);
+        Check.sentence("Promise 6", "Nothing is written any more", WritingEdgesTest::clearAt3800);
+        Check.sentence("Promise 7", "How many bits are written.", WritingEdgesTest::howMany);
         Check.end();
     }
 

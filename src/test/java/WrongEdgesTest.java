@@ -3,33 +3,39 @@ public final class WrongEdgesTest {
     private static final String OPEN_A = "1 0001 0001";
 
     public static void main(String[] args) {
-        Check.sentence("It is WRONG, at the number of bits that were taken, "
-                + "when a bit is missing,", WrongEdgesTest::missingBit);
-        Check.sentence("a place is none (not below m): in TAG", WrongEdgesTest::placesInTag);
-        Check.sentence("a place is none (not below m): in CONTENT",
+        Check.sentence("Terms",
+                "It is WRONG, at the number of bits that were taken, when a bit is missing,",
+                WrongEdgesTest::missingBit);
+        Check.sentence("Terms, in TAG", "a place is none (not below m)",
+                WrongEdgesTest::placesInTag);
+        Check.sentence("Terms, in CONTENT", "a place is none (not below m)",
                 WrongEdgesTest::placesInContent);
-        Check.sentence("a place is none (not below m): spaces", WrongEdgesTest::placesOfSpaces);
-        Check.sentence("a place is none (not below m): local parts",
+        Check.sentence("Terms, spaces", "a place is none (not below m)",
+                WrongEdgesTest::placesOfSpaces);
+        Check.sentence("Terms, local parts", "a place is none (not below m)",
                 WrongEdgesTest::placesOfLocals);
-        Check.sentence("a place is none (not below m): values", WrongEdgesTest::placesOfValues);
-        Check.sentence("a place is none (not below m): of all values",
+        Check.sentence("Terms, values", "a place is none (not below m)",
+                WrongEdgesTest::placesOfValues);
+        Check.sentence("Terms, of all values", "a place is none (not below m)",
                 WrongEdgesTest::placesOfAllValues);
-        Check.sentence("a place is none (not below m): of an empty table",
+        Check.sentence("Terms, of an empty table", "a place is none (not below m)",
                 WrongEdgesTest::placesOfNothing);
-        Check.sentence("more than 5 letters are told,", WrongEdgesTest::sixLetters);
-        Check.sentence("or one (as soon as it is read) is not 1 .. 26: local part",
+        Check.sentence("Terms", "more than 5 letters are told,", WrongEdgesTest::sixLetters);
+        Check.sentence("Terms, local part", "or one (as soon as it is read) is not 1 .. 26",
                 WrongEdgesTest::lettersOfLocal);
-        Check.sentence("or one (as soon as it is read) is not 1 .. 26: space",
+        Check.sentence("Terms, space", "or one (as soon as it is read) is not 1 .. 26",
                 WrongEdgesTest::lettersOfSpace);
-        Check.sentence("or one (as soon as it is read) is not 1 .. 26: value",
+        Check.sentence("Terms, value", "or one (as soon as it is read) is not 1 .. 26",
                 WrongEdgesTest::lettersOfValue);
-        Check.sentence("a space or local part that was told by letters comes to a full table,",
+        Check.sentence("Terms",
+                "a space or local part that was told by letters comes to a full table,",
                 WrongEdgesTest::fullTables);
-        Check.sentence("or a name that is new (known by then) is the 21st,",
+        Check.sentence("Terms", "or a name that is new (known by then) is the 21st,",
                 WrongEdgesTest::name21);
-        Check.sentence("or a ninth element is opened (when its name is known);",
+        Check.sentence("Terms", "or a ninth element is opened (when its name is known);",
                 WrongEdgesTest::ninthElement);
-        Check.sentence("bits behind the last CLOSE do not matter.", WrongEdgesTest::bitsBehind);
+        Check.sentence("Terms", "bits behind the last CLOSE do not matter.",
+                WrongEdgesTest::bitsBehind);
         Check.end();
     }
 
@@ -38,7 +44,8 @@ public final class WrongEdgesTest {
     }
 
     private static void missingBit() {
-        String whole = Code.join("0 0010 0001 1001 0001 0001 0001", "01 10 0001 0010 0011 1000 0001",
+        String whole = Code.join("0 0010 0001 1001 0001 0001 0001",
+                "01 10 0001 0010 0011 1000 0001",
                 "1 01 01 0001 0011 0001", "10 11 0011 0010", "1 1 0000", "00 0001 1",
                 "10 0 10 0000 0", "11 00", "10");
         LearnedCodes x = Code.streamOf(whole);
